@@ -40,6 +40,7 @@ public final class PromisesTest {
         days();
         keep();
         again();
+        whereAllIsSure();
         whatIsRefusedChangesNothing();
         whatIsAskedChangesNothing();
         DUE.end();
@@ -152,6 +153,7 @@ public final class PromisesTest {
         is("5 river() with a fault", x.river(), -3);
         DUE.holds("5 nothing changed", before.equals(Due.look(x)));
         is("5 kept still", x.again(0), 1);
+        x.hour();
         Due.text(x, "R112S13090");
         is("5 river()", x.river(), 1);
         int[] now = {1, 1, 0, 1, 2, 0, 0, -9, -9, 0, 1, 10};
@@ -541,6 +543,12 @@ public final class PromisesTest {
         worth(w, 0, 0, 1, 6);
         worth(w, 1, 0, 5, 3);
         worth(w, 2, 0, 1, 6);
+        EarFerry six = Due.on("R001S01090S01090S01090S01090S01090S01090");
+        for (int s = 0; s < 6; s++) {
+            worth(six, s, 0, 1, 6);
+        }
+        six.hush(2);
+        worth(six, 5, 0, 1, 5);
         is("19 unknown", w.worth(3, 0, true), -1);
         is("19 unknown first", w.worth(3, 10, true), -1);
         is("19 bad", w.worth(0, 10, true), -2);
@@ -747,6 +755,10 @@ public final class PromisesTest {
         Due.text(x, "R001S53890S53093");
         x.river();
         is("25 at hour 0 it is not heard", x.weather(0), 0);
+        x.unsee();
+        x.see(0, 5, 8, true);
+        x.see(0, 5, 7, false);
+        is("25 at hour 8 it is: by rain 0 and 1, by rain 2 in a calm", x.weather(0), 7);
         is("25 bad", x.weather(2), -2);
         for (int v : OUTSIDE) {
             is("25 bad", x.weather(v), -2);
@@ -900,6 +912,29 @@ public final class PromisesTest {
         for (int v : OUTSIDE) {
             is("31 unknown", x.again(v), -1);
         }
+    }
+
+    /** Heard at 1 .. 5, 2 .. 6, 3 .. 7, 4 .. 8, 5 .. 9: each cell has a set of its own. Hammers are as loud. */
+    private static void whereAllIsSure() {
+        EarFerry x = Due.on("R001S33090S43090S53090S63090S73090");
+        is("15 all", x.sure(0), 1023);
+        is("20 none is needed", x.hammers(0, 10, 0), 0);
+        is("20 none is needed", x.hammers(0, 10, 1), 0);
+        is("21 ten times ten", x.bestHours(10, 1), 100);
+        is("26 nothing better, nothing worse", x.rivals(0, 0), 111);
+        is("26 the first", x.rivals(0, 1), 1);
+        EarFerry y = Due.on("R001S53090S53090S63090S63090S73090S73090");
+        is("20 two", y.hammers(0, 10, 0), 2);
+        is("20 at 3 and 4", y.hammers(0, 10, 1), 34);
+        y.hammer(4);
+        y.hammer(3);
+        is("15 all", y.sure(0), 1023);
+        is("18 each can be spared: the least", y.spared(0), 0);
+        y.hush(0);
+        is("18 the other one can not", y.spared(0), 1);
+        y.hush(2);
+        y.hush(4);
+        is("15 all", y.sure(0), 1023);
     }
 
     private static void whatIsRefusedChangesNothing() {
