@@ -46,7 +46,9 @@ final class Due {
     static EarFerry on(String text) {
         EarFerry x = new EarFerry();
         text(x, text);
-        x.river();
+        if (x.river() < 0) {
+            throw new IllegalArgumentException("no river: " + text);
+        }
         return x;
     }
 
