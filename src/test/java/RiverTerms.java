@@ -1,6 +1,6 @@
 /** The terms of the river, of what is heard and of acts, sentence by sentence. */
 final class RiverTerms {
-    private static final String FULL_TEXT = "R942S01990S99000S59091S31552S44283S00123";
+    /** A river that takes all 40 bytes. */
     private static final String WHOLE = "R942S01990S99000S59091S31552S44283S01123";
 
     private RiverTerms() {
@@ -14,7 +14,7 @@ final class RiverTerms {
         sounds();
         bytes();
         head();
-        headIsNumbered();
+        partsAreNumbered();
         part();
         partsHours();
         faultIsTheFirst();
@@ -154,10 +154,10 @@ final class RiverTerms {
 
     private static void head() {
         Sentence.terms("A RIVER is a TEXT: R, START (a CELL), RAIN (0 .. 4), WIND (0 .. 2), then PARTS, none or more,");
-        onlyThese(FULL_TEXT, 0, "R");
-        onlyThese(FULL_TEXT, 1, "0123456789");
-        onlyThese(FULL_TEXT, 2, "01234");
-        onlyThese(FULL_TEXT, 3, "012");
+        onlyThese(WHOLE, 0, "R");
+        onlyThese(WHOLE, 1, "0123456789");
+        onlyThese(WHOLE, 2, "01234");
+        onlyThese(WHOLE, 3, "012");
         for (int n = 0; n < 150; n++) {
             EarFerry x = Due.on("R" + n / 15 + n / 3 % 5 + n % 3);
             Sentence.is("START", x.about(1), n / 15);
@@ -167,7 +167,7 @@ final class RiverTerms {
         }
     }
 
-    private static void headIsNumbered() {
+    private static void partsAreNumbered() {
         Sentence.terms("numbered as they are told:");
         EarFerry x = Due.on("R001S91120S12341S53452S34563S75670S06781");
         int[] cells = {9, 1, 5, 3, 7, 0};
@@ -218,7 +218,7 @@ final class RiverTerms {
             Sentence.is("fault() with bad bytes behind it", x.fault(), place);
         }
         EarFerry y = new EarFerry();
-        Due.text(y, FULL_TEXT);
+        Due.text(y, WHOLE.replace("S01123", "S00123"));
         Sentence.is("0 loud in the last part", y.fault(), 36);
     }
 
