@@ -182,8 +182,7 @@ final class RiverTerms {
 
     private static void part() {
         Sentence.terms("Sclftk a SOUND at CELL c, l (1 .. 9) loud, from HOUR f to HOUR t");
-        // In the first part and in the last one.
-        for (int start = 4; start <= 34; start += 30) {
+        for (int start = 4; start <= 34; start += 6) {
             onlyThese(WHOLE, start, "S");
             onlyThese(WHOLE, start + 1, "0123456789");
             onlyThese(WHOLE, start + 2, "123456789");
@@ -197,6 +196,9 @@ final class RiverTerms {
 
     private static void partsHours() {
         Sentence.terms("(f .. 9)");
+        for (int start = 4; start <= 34; start += 6) {
+            onlyThese(WHOLE, start + 4, "0123456789".substring(WHOLE.charAt(start + 3) - '0'));
+        }
         for (int from = 0; from <= 9; from++) {
             onlyThese("R001S05" + from + "0", 8, "0123456789".substring(from));
             onlyThese("R001S05000S05" + from + "0", 14, "0123456789".substring(from));
