@@ -42,8 +42,6 @@ public final class EarFerry {
     private static final long SEED_STEP = 1442695040888963407L;
     private static final int SEED_SHIFT = 33;
 
-    private static final int[] FACTORIALS = {1, 1, 2, 6, 24, 120, 720};
-
     private final Text text = new Text();
     private final Sounds sounds = new Sounds();
     private final Scene now = new Scene();
@@ -286,11 +284,11 @@ public final class EarFerry {
         for (int earlier = 0; earlier < SUBSETS; earlier++) {
             if ((earlier & ~others) == 0) {
                 int came = Integer.bitCount(earlier);
-                int orders = FACTORIALS[came] * FACTORIALS[company - came];
+                int orders = factorial(came) * factorial(company - came);
                 total += orders * (sureCount(earlier | own) - sureCount(earlier));
             }
         }
-        return toldPart(total, FACTORIALS[company + 1], upper);
+        return toldPart(total, factorial(company + 1), upper);
     }
 
     public int hammers(int hour, int n, int what) {
@@ -674,6 +672,14 @@ public final class EarFerry {
         int product = 1;
         for (int i = 0; i < exponent; i++) {
             product *= base;
+        }
+        return product;
+    }
+
+    private static int factorial(int n) {
+        int product = 1;
+        for (int i = 2; i <= n; i++) {
+            product *= i;
         }
         return product;
     }

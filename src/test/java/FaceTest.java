@@ -6,7 +6,9 @@ import java.nio.file.Files;
 import java.nio.file.Path;
 import java.util.ArrayList;
 import java.util.Arrays;
+import java.util.HashMap;
 import java.util.List;
+import java.util.Map;
 import java.util.TreeSet;
 import java.util.regex.Matcher;
 import java.util.regex.Pattern;
@@ -34,6 +36,7 @@ public final class FaceTest {
         constants(due);
         inside(due);
         text(due);
+        methods(due);
         due.end();
     }
 
@@ -98,9 +101,13 @@ public final class FaceTest {
         }
     }
 
-    private static void text(Due due) throws Exception {
+    private static String code() throws Exception {
         String source = Files.readString(Path.of("src/main/java/EarFerry.java"));
-        String code = source.replaceAll("(?s)/\\*.*?\\*/", " ").replaceAll("//[^\\n]*", " ");
+        return source.replaceAll("(?s)/\\*.*?\\*/", " ").replaceAll("//[^\\n]*", " ");
+    }
+
+    private static void text(Due due) throws Exception {
+        String code = code();
         for (String word : FORBIDDEN) {
             String bare = Character.isLetter(word.charAt(0)) ? "\\b" + word + "\\b" : Pattern.quote(word);
             due.holds("not in the class: " + word, !Pattern.compile(bare).matcher(code).find());
@@ -114,5 +121,31 @@ public final class FaceTest {
             due.holds("not in the class: " + calls.group(),
                 List.of("abs", "max", "min", "bitCount").contains(calls.group(2)));
         }
+    }
+
+    /** Methods are short, and calls go at most eight deep, the library's among them; none calls itself. */
+    private static void methods(Due due) throws Exception {
+        Map<String, String> bodies = new HashMap<>();
+        Matcher each = Pattern.compile("(?ms)^( {4}| {8})(?:[a-z]+ )*(\\w+)\\([^()]*\\) \\{$(.*?)^\\1\\}$").matcher(code());
+        while (each.find()) {
+            bodies.merge(each.group(2), each.group(3), String::concat);
+            due.holds(each.group(2) + " has some sixty lines at most", each.group(3).lines().count() <= 60);
+        }
+        for (Method m : EarFerry.class.getDeclaredMethods()) {
+            due.holds("found in the text: " + m.getName(), bodies.containsKey(m.getName()));
+            due.holds("eight calls deep at most: " + m.getName(), depth(m.getName(), bodies, 0) <= 8);
+        }
+    }
+
+    private static int depth(String name, Map<String, String> bodies, int above) {
+        if (above > 20 || !bodies.containsKey(name)) {
+            return above + 1;
+        }
+        int deepest = above + 1;
+        Matcher call = Pattern.compile("(\\w+)\\(").matcher(bodies.get(name));
+        while (call.find()) {
+            deepest = Math.max(deepest, depth(call.group(1), bodies, above + 1));
+        }
+        return deepest;
     }
 }
